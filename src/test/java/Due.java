@@ -1,0 +1,34 @@
+/** Counts and prints the answers that are not as due. */
+final class Due {
+    private int wrong;
+    private int asked;
+
+    void is(String call, long got, long want) {
+        note(call, got == want, String.valueOf(got), String.valueOf(want));
+    }
+
+    /** Compares the bits, so that -0 is not taken for 0. */
+    void point(String call, double got, double want) {
+        note(call, Double.doubleToLongBits(got) == Double.doubleToLongBits(want),
+                String.valueOf(got), String.valueOf(want));
+    }
+
+    void text(String call, String got, String want) {
+        note(call, got.equals(want), got, want);
+    }
+
+    private void note(String call, boolean right, String got, String want) {
+        asked++;
+        if (!right) {
+            wrong++;
+            System.out.println(call + " answered " + got + ", due is " + want);
+        }
+    }
+
+    void end() {
+        System.out.println(asked + " answers looked at, " + wrong + " not as due");
+        if (wrong != 0 || asked == 0) {
+            System.exit(1);
+        }
+    }
+}
