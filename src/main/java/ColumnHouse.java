@@ -194,59 +194,11 @@ public final class ColumnHouse {
     }
 
     public int gather(int c, int x, int d) {
-        Row from = rowIn(c);
-        Row index = rowIn(x);
-        Row to = rowIn(d);
-        if (from == null || index == null || to == null) {
-            return refuse(rowsAmiss(c, x, d));
-        }
-        if (!index.goesAs(INT)) {
-            return refuse(WRONG_KIND);
-        }
-        if (index.length() != to.length()) {
-            return refuse(WRONG_PLACE);
-        }
-        for (int k = 0; k < index.length(); k++) {
-            int place = indexAt(index, k);
-            if (!from.has(place)) {
-                return refuse(WRONG_PLACE);
-            }
-            from.read(place, stage[k]);
-            if (!to.takes(stage[k])) {
-                return refuse(WRONG_VALUE);
-            }
-        }
-        return done(writeStage(to));
+        return moveByIndex(c, x, d, true);
     }
 
     public int scatter(int c, int x, int d) {
-        Row from = rowIn(c);
-        Row index = rowIn(x);
-        Row to = rowIn(d);
-        if (from == null || index == null || to == null) {
-            return refuse(rowsAmiss(c, x, d));
-        }
-        if (!index.goesAs(INT)) {
-            return refuse(WRONG_KIND);
-        }
-        if (index.length() != from.length()) {
-            return refuse(WRONG_PLACE);
-        }
-        int count = index.length();
-        for (int k = 0; k < count; k++) {
-            targets[k] = indexAt(index, k);
-            if (!to.has(targets[k])) {
-                return refuse(WRONG_PLACE);
-            }
-            from.read(k, stage[k]);
-            if (!to.takes(stage[k])) {
-                return refuse(WRONG_VALUE);
-            }
-        }
-        for (int k = 0; k < count; k++) {
-            to.write(targets[k], stage[k]);
-        }
-        return done(count);
+        return moveByIndex(c, x, d, false);
     }
 
     public int merge(int c, int d, int e) {
@@ -512,6 +464,44 @@ public final class ColumnHouse {
         row.read(i, one);
         why = DONE;
         return true;
+    }
+
+    /** gather and scatter: column x tells the places that are read, or those that are written. */
+    private int moveByIndex(int c, int x, int d, boolean reads) {
+        Row from = rowIn(c);
+        Row index = rowIn(x);
+        Row to = rowIn(d);
+        if (from == null || index == null || to == null) {
+            return refuse(rowsAmiss(c, x, d));
+        }
+        if (!index.goesAs(INT)) {
+            return refuse(WRONG_KIND);
+        }
+        int count = index.length();
+        if (count != (reads ? to.length() : from.length())) {
+            return refuse(WRONG_PLACE);
+        }
+        for (int k = 0; k < count; k++) {
+            int place = indexAt(index, k);
+            targets[k] = reads ? k : place;
+            int reason = stageMove(from, reads ? place : k, to, k);
+            if (reason != DONE) {
+                return refuse(reason);
+            }
+        }
+        for (int k = 0; k < count; k++) {
+            to.write(targets[k], stage[k]);
+        }
+        return done(count);
+    }
+
+    /** The k-th move: stages what the source place has for the k-th target; answers what is amiss. */
+    private int stageMove(Row from, int source, Row to, int k) {
+        if (!from.has(source) || !to.has(targets[k])) {
+            return WRONG_PLACE;
+        }
+        from.read(source, stage[k]);
+        return to.takes(stage[k]) ? DONE : WRONG_VALUE;
     }
 
     private int indexAt(Row index, int k) {

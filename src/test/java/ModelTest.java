@@ -4,7 +4,7 @@ import java.util.Random;
 /** Runs of calls drawn by a fixed seed, each answered by the class and by the model over Java's arrays. */
 public final class ModelTest {
     private static final int RUNS = 6000;
-    private static final int DRAWN = 110;
+    private static final int DRAWN = 140;
     private static final int MOST_CALLS = 512;
 
     private static final String[] CALLS = {
@@ -17,7 +17,7 @@ public final class ModelTest {
         "cic", "cc", "ccc", "ccc", "ccc", "c", "ct", "c", "c", "cisv", "cc", ""
     };
     private static final int[] WEIGHTS = {
-        10, 3, 1, 1, 2, 2, 25, 5, 12, 4, 4, 2, 4, 10, 12, 12, 12, 6, 4, 3, 3, 6, 6, 1
+        5, 3, 1, 1, 2, 2, 25, 5, 20, 4, 4, 2, 4, 10, 12, 12, 12, 6, 4, 3, 3, 6, 6, 1
     };
     private static final long[] EDGES = {
         0, 1, 2, 3, -1, -2, 7, 8, 16, 127, 128, 255, 256, 32767, 32768, 65535, 65536, (1L << 24) + 1, (1L << 24) + 3,
@@ -31,9 +31,14 @@ public final class ModelTest {
     private final StringBuilder story = new StringBuilder();
     private int calls;
     private boolean wrong;
+    /** In some runs most rows are plain, in others most are of things; of many the length is the same. */
+    private final int leaning;
+    private final int usualLength;
 
     private ModelTest(long seed) {
         random = new Random(seed);
+        leaning = 1 + random.nextInt(7);
+        usualLength = random.nextInt(5);
     }
 
     public static void main(String[] args) {
@@ -52,16 +57,21 @@ public final class ModelTest {
     }
 
     private void play() {
-        for (int c = 0; c < 12 && random.nextInt(4) != 0; c++) {
-            compare(0, new int[] {c, random.nextInt(15), random.nextInt(5)});
+        for (int c = 0; c < 12; c++) {
+            if (random.nextInt(12) != 0) {
+                compare(0, new int[] {c, drawKind(), drawLength(), 0, 0});
+            }
         }
         for (int k = 0; k < DRAWN && !wrong; k++) {
             int which = drawCall();
-            compare(which, drawParameters(PARAMETERS[which]));
-            lookAtRow(random.nextInt(12));
+            compare(which, drawPromising(which));
+            if (random.nextInt(3) == 0) {
+                lookAtRow(random.nextInt(12));
+            }
         }
         for (int c = 0; c < 12 && !wrong; c++) {
             lookAtRow(c);
+            lookAtThings(c);
         }
     }
 
@@ -76,6 +86,61 @@ public final class ModelTest {
             drawn -= WEIGHTS[which++];
         }
         return which;
+    }
+
+    /** Mostly parameters that the call is not sure to refuse: blind draws would hardly ever be done. */
+    private int[] drawPromising(int which) {
+        int[] drawn = drawParameters(PARAMETERS[which]);
+        int tries = random.nextInt(5) == 0 ? 0 : 200;
+        for (int k = 0; k < tries && !promising(which, drawn); k++) {
+            drawn = drawParameters(PARAMETERS[which]);
+        }
+        return drawn;
+    }
+
+    private boolean promising(int which, int[] p) {
+        int first = kindIn(p[0]);
+        switch (CALLS[which]) {
+            case "make": return true;
+            case "tag":
+            case "load": return first >= 12;
+            case "put":
+            case "putBoxed": return p[1] >= 0 && p[1] < lengthIn(p[0]) && p[2] <= first && first <= 7;
+            case "putThing":
+            case "take": return p[1] >= 0 && p[1] < lengthIn(p[0]) && first >= 8
+                    && (which == 12 || kindIn(p[2]) == -1 || fits(first, kindIn(p[2])));
+            case "number": return p[2] >= first;
+            case "copy": return lengthIn(p[0]) == lengthIn(p[1]) && first <= 7 == kindIn(p[1]) <= 7;
+            case "gather":
+            case "scatter": return lengthIn(p[1]) == lengthIn(p[which == 14 ? 2 : 0])
+                    && kindIn(p[1]) >= 1 && kindIn(p[1]) <= 4 && first <= 7 == kindIn(p[2]) <= 7;
+            case "merge": return lengthIn(p[0]) + lengthIn(p[1]) == lengthIn(p[2])
+                    && first <= 7 && kindIn(p[1]) <= 7 && kindIn(p[2]) <= 7;
+            default: return lengthIn(p[0]) > 0;
+        }
+    }
+
+    private static boolean fits(int row, int thing) {
+        return row == 8 ? thing >= 12 : row == 9 ? thing == 14 : row == 10 ? thing == 4 : thing == 8 || thing == 9;
+    }
+
+    private int kindIn(int c) {
+        return c < 0 || c > 11 ? -1 : ArrayModel.kindOf(model.inColumn(c));
+    }
+
+    private int lengthIn(int c) {
+        int kind = kindIn(c);
+        return kind < 0 || kind > 11 ? -100 : ArrayModel.contents(model.inColumn(c)).size();
+    }
+
+    private int drawKind() {
+        int way = random.nextInt(8);
+        return way < leaning ? random.nextInt(8) : way == 7 ? random.nextInt(15) : 8 + random.nextInt(7);
+    }
+
+    private int drawLength() {
+        int way = random.nextInt(20);
+        return way < 12 ? usualLength : way < 17 ? 2 * usualLength : way < 19 ? random.nextInt(6) : random.nextInt(27) - 1;
     }
 
     private int[] drawParameters(String shape) {
@@ -99,8 +164,8 @@ public final class ModelTest {
         }
         switch (parameter) {
             case 'c': return random.nextInt(12);
-            case 'k': return random.nextInt(15);
-            case 'n': return random.nextInt(20) == 0 ? random.nextInt(27) - 1 : random.nextInt(5);
+            case 'k': return drawKind();
+            case 'n': return drawLength();
             case 's': return random.nextInt(8);
             case 't': return random.nextInt(41) - 20;
             default: return random.nextInt(10) == 0 ? random.nextInt(27) - 1 : random.nextInt(4);
@@ -158,6 +223,18 @@ public final class ModelTest {
         List<Object> contents = ArrayModel.contents(held);
         for (int i = 0; i < contents.size(); i++) {
             compare(kind <= 5 ? 9 : kind <= 7 ? 10 : 11, new int[] {c, i, kind, 0, 0});
+        }
+    }
+
+    /** Which things they are: one after the other is taken to column 0, which was looked at. */
+    private void lookAtThings(int c) {
+        if (c == 0 || kindIn(c) < 8 || kindIn(c) > 11) {
+            return;
+        }
+        for (int i = 0; i < lengthIn(c); i++) {
+            compare(12, new int[] {c, i, 0, 0, 0});
+            compare(4, new int[] {0, 0, 0, 0, 0});
+            compare(2, new int[] {0, 0, 0, 0, 0});
         }
     }
 
