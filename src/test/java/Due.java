@@ -2,6 +2,22 @@
 final class Due {
     private int wrong;
     private int asked;
+    private String sentence = "";
+    private int askedBefore;
+
+    /** The answers from here on are asked for these words of the document; each sentence must ask for some. */
+    void sentence(String words) {
+        endSentence();
+        sentence = words;
+    }
+
+    private void endSentence() {
+        if (!sentence.isEmpty() && asked == askedBefore) {
+            wrong++;
+            System.out.println("[" + sentence + "] asked for nothing");
+        }
+        askedBefore = asked;
+    }
 
     void is(String call, long got, long want) {
         note(call, got == want, String.valueOf(got), String.valueOf(want));
@@ -21,11 +37,13 @@ final class Due {
         asked++;
         if (!right) {
             wrong++;
-            System.out.println(call + " answered " + got + ", due is " + want);
+            String of = sentence.isEmpty() ? "" : "[" + sentence + "] ";
+            System.out.println(of + call + " answered " + got + ", due is " + want);
         }
     }
 
     void end() {
+        endSentence();
         System.out.println(asked + " answers looked at, " + wrong + " not as due");
         if (wrong != 0 || asked == 0) {
             System.exit(1);
