@@ -89,6 +89,7 @@ final class Edges {
     /** The call answers 0, WHY becomes this reason from another one, and all else is as it was. */
     void refused(int reason, String name, ColumnHouse house, ToDoubleFunction<ColumnHouse> call) {
         String before = seen(house);
+        otherAnswers(house);
         anotherWhy(house, reason);
         due.point(name, call.applyAsDouble(house), 0.0);
         due.is(name + ": why", house.why(), reason);
@@ -104,6 +105,18 @@ final class Edges {
 
     void row(String name, ColumnHouse house, int c, String want) {
         due.text(name + ": row " + c, inRow(house, c), want);
+    }
+
+    /** The calls ahead of a refused one answer other numbers than 0: none of them may come again. */
+    private static void otherAnswers(ColumnHouse house) {
+        house.make(SPARE, 7, 1);
+        house.put(SPARE, 0, 7, 0, 3);
+        house.point(SPARE, 0, 7);
+        house.make(SPARE, 5, 1);
+        house.put(SPARE, 0, 5, -1, -9);
+        house.number(SPARE, 0, 5);
+        house.find(SPARE, 0, 5, -1, -9);
+        house.lay(NOTHING, SPARE);
     }
 
     /** Leaves a WHY that is neither 0 nor this reason. */

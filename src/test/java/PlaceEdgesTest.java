@@ -208,16 +208,22 @@ public final class PlaceEdgesTest {
         for (int kind = 0; kind <= 11; kind++) {
             for (int n : new int[] {0, 1, 24}) {
                 for (int i : Edges.outside(n - 1)) {
-                    ColumnHouse house = new ColumnHouse();
-                    house.make(1, kind, n);
-                    house.make(2, 14, 3);
-                    house.make(3, 4, 1);
-                    EDGES.refused(4, "putThing a BADGE at " + i + " of " + n, house, h -> h.putThing(1, i, 2));
-                    EDGES.refused(4, "putThing INTS at " + i + " of " + n, house, h -> h.putThing(1, i, 3));
-                    EDGES.refused(4, "putThing NOTHING at " + i + " of " + n, house, h -> h.putThing(1, i, 0));
+                    String name = "putThing at " + i + " of " + n + ": ";
+                    EDGES.refused(4, name + "a BADGE", rowAndThings(kind, n), h -> h.putThing(1, i, 2));
+                    EDGES.refused(4, name + "INTS", rowAndThings(kind, n), h -> h.putThing(1, i, 3));
+                    EDGES.refused(4, name + "NOTHING", rowAndThings(kind, n), h -> h.putThing(1, i, 0));
                 }
             }
         }
+    }
+
+    /** Column 1 holds a row, 2 a BADGE, 3 a row of INTS. */
+    private static ColumnHouse rowAndThings(int kind, int n) {
+        ColumnHouse house = new ColumnHouse();
+        house.make(1, kind, n);
+        house.make(2, 14, 3);
+        house.make(3, 4, 1);
+        return house;
     }
 
     private static void putThingIntoAPlainRow() {

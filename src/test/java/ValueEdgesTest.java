@@ -413,6 +413,11 @@ public final class ValueEdgesTest {
                 less(point, 23, sort, three, false);
             }
         }
+        // Between an INT and the FLOAT that is nearest to it: the INT doesn't become that FLOAT.
+        less(7, (1L << 27) + 4, 4, (1L << 24) + 1, false);
+        less(4, (1L << 24) + 1, 7, (1L << 27) + 4, true);
+        less(7, (1L << 27) + 28, 4, (1L << 24) + 3, true);
+        less(4, (1L << 24) + 3, 7, (1L << 27) + 28, false);
         less(7, 1, 7, 0, true);
         less(7, 0, 7, -1, true);
         // Like ones as DOUBLES: that of c comes first, whatever the next places have.
