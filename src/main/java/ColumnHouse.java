@@ -408,7 +408,7 @@ public final class ColumnHouse {
         return another == DONE ? reason : Math.min(reason, another);
     }
 
-    /** The card in column c, or null where cardAmiss has a reason. */
+    /** The card in column c, or null where there is none. */
     private Card cardIn(int c) {
         if (isColumn(c) && columns[c] instanceof Card card) {
             return card;
@@ -416,11 +416,9 @@ public final class ColumnHouse {
         return null;
     }
 
-    private int cardAmiss(int c) {
-        if (!isColumn(c)) {
-            return WRONG_NUMBER;
-        }
-        return columns[c] instanceof Card ? DONE : WRONG_VALUE;
+    /** Why there is no card in column c: NOTHING and a row are one reason here. */
+    private static int cardAmiss(int c) {
+        return isColumn(c) ? WRONG_VALUE : WRONG_NUMBER;
     }
 
     private int putTold(int c, int i, int sort, int a, int b) {

@@ -359,6 +359,32 @@ public final class ThingEdgesTest {
             int column = c;
             EDGES.refused(5, "tag of column " + c, h -> h.tag(column));
         }
+        noCardAmongCards("tag", ColumnHouse::tag);
+    }
+
+    /** Every column holds a card, but for this one, which holds a row of a kind, or NOTHING (-1). */
+    private static ColumnHouse cardsButIn(int column, int kind) {
+        ColumnHouse house = new ColumnHouse();
+        for (int c = 0; c < 12; c++) {
+            if (c != column) {
+                house.make(c, 12 + c % 3, 7 + c);
+            }
+        }
+        if (kind >= 0) {
+            house.make(column, kind, 2);
+        }
+        return house;
+    }
+
+    /** What the other columns hold is not asked for. */
+    private static void noCardAmongCards(String name, Fixture.ColumnCall call) {
+        for (int c = 0; c < 12; c++) {
+            for (int kind = -1; kind <= 11; kind++) {
+                ColumnHouse house = cardsButIn(c, kind);
+                EDGES.due.point(name + " of column " + c + " among cards", call.of(house, c), 0.0);
+                EDGES.due.is("why", house.why(), 5);
+            }
+        }
     }
 
     private static void loadOfCardsAndPasses() {
@@ -392,6 +418,7 @@ public final class ThingEdgesTest {
             int column = c;
             EDGES.refused(5, "load of column " + c, h -> h.load(column));
         }
+        noCardAmongCards("load", ColumnHouse::load);
     }
 
     private static void whyItself() {
